@@ -1157,8 +1157,11 @@ public final class PassedPenance {
 
         int bestSin(int person) {
             int found = 0;
-            for (int penance = 1; penance < penances; penance++) {
-                if (costsIfSin(person, penance) < costsIfSin(person, found)) {
+            int least = UNREACHED;
+            for (int penance = 0; penance < penances; penance++) {
+                int costs = costsIfSin(person, penance);
+                if (costs < least) {
+                    least = costs;
                     found = penance;
                 }
             }
@@ -1173,8 +1176,11 @@ public final class PassedPenance {
 
         int bestHour(int person) {
             int found = 0;
-            for (int hour = 1; hour < hours; hour++) {
-                if (costInHour(person, hour) < costInHour(person, found)) {
+            int least = UNREACHED;
+            for (int hour = 0; hour < hours; hour++) {
+                int cost = costInHour(person, hour);
+                if (cost < least) {
+                    least = cost;
                     found = hour;
                 }
             }

@@ -176,6 +176,14 @@ public final class PromiseTest {
         fault("church", 1, 6);
         fault("church ", 1, 7);
         fault("churchhours", 1, 0);
+        fault("churchz hours", 1, 0);
+        fault("achurch hours", 1, 0);
+        fault("church`", 1, 6);
+        fault("church{", 1, 6);
+        fault("church hours 1/", 1, 14);
+        fault("church hours 1:", 1, 14);
+        fault("church\0hours", 1, 6);
+        fault("church\rhours", 1, 6);
         fault("church boxes", 1, 7);
         fault("church hours", 1, 12);
         fault("church hours x", 1, 13);
