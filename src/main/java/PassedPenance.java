@@ -833,24 +833,19 @@ public final class PassedPenance {
                 return false;
             }
             told.hourOf[person] = passNumber();
-            if (!readBoxOf(person) || !passWord("bears") || !isNumber(1, 9)) {
+            told.boxOf[person] = 0;
+            if (isWord("box")) {
+                step();
+                if (!isNumber(0, told.boxes - 1)) {
+                    return false;
+                }
+                told.boxOf[person] = passNumber();
+            }
+            if (!passWord("bears") || !isNumber(1, 9)) {
                 return false;
             }
             told.strength[person] = passNumber();
             told.persons++;
-            return true;
-        }
-
-        private boolean readBoxOf(int person) {
-            told.boxOf[person] = 0;
-            if (!isWord("box")) {
-                return true;
-            }
-            step();
-            if (!isNumber(0, told.boxes - 1)) {
-                return false;
-            }
-            told.boxOf[person] = passNumber();
             return true;
         }
 
