@@ -86,11 +86,10 @@ public final class PassedPenance {
 
     public int church() {
         reader.readAll();
-        // A faulty text uses up the tape too: what stays then is the church with its acts.
-        reader.length = 0;
         if (reader.fault != Reader.NO_FAULT) {
             return FAULTY;
         }
+        reader.length = 0;
         church.takeOver(reader.told);
         acts.begin(church);
         return church.lines;

@@ -208,12 +208,11 @@ final class Oracle {
     }
 
     public int church() {
-        String text = tape.toString();
-        tape.setLength(0);
         faultKind = 0;
         faultPlace = -1;
         try {
-            state = parse(text);
+            state = parse(tape.toString());
+            tape.setLength(0);
             return state.lines;
         } catch (Fault f) {
             faultKind = f.kind;

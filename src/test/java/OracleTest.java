@@ -140,10 +140,12 @@ public final class OracleTest {
 
     private boolean feedText(int mostPersons) throws Exception {
         byte[] text = churchText(mostPersons).getBytes(java.nio.charset.StandardCharsets.ISO_8859_1);
-        if (random.nextInt(6) == 0 && !same("end", 0)) {
+        // What a fault or wild bytes left on the tape is mostly taken away, else few texts would be churches.
+        if (real.count(7) > 0 && random.nextInt(8) > 0 && !same("end", 0)) {
             return false;
         }
-        if (!feedBytes(text) || random.nextInt(10) > 0 && !same("end", Math.min(text.length, real.count(7)))) {
+        int length = real.count(7) + text.length;
+        if (!feedBytes(text) || random.nextInt(10) > 0 && !same("end", Math.min(length, real.count(7)))) {
             return false;
         }
         return same("church") && same("fault", 0) && same("fault", 1) && same("count", 7);

@@ -131,8 +131,13 @@ public final class PromiseTest {
         due("the church stays", x.count(6), 10);
         due("the acts stay", x.count(5), 1);
         due("penances stay", x.count(3), 3);
-        due("the text is used up", x.count(7), 0);
-        due("church in place of it", Check.tell(x, HEAD + "penance days 5;left 1 0;"), 3);
+        due("the tape stays", x.count(7), 48);
+        due("it is as faulty again", x.church(), -4);
+        due("at the same place", x.fault(1), 44);
+        due("its head alone", x.end(31), 31);
+        Check.feed(x, "penance days 5;left 1 0;");
+        due("church in place of it", x.church(), 3);
+        due("the tape is empty then", x.count(7), 0);
         due("nothing done", x.count(5), 0);
         due("boxes", x.count(1), 2);
         due("persons are gone", x.count(4), 0);
@@ -256,6 +261,7 @@ public final class PromiseTest {
         due("fault(1)", x.fault(1), 13);
         due("fault(2)", x.fault(2), -1);
         due("fault(-1)", x.fault(-1), -1);
+        x.end(0);
         Check.feed(x, EMPTY);
         due("fault(0) is the latest church's", x.fault(0), 2);
         x.church();
@@ -772,6 +778,7 @@ public final class PromiseTest {
             x.box(0), x.count(2)}, 10, 4, 2, 7, 1, 2, 50);
         Check.tell(x, "church hours 0");
         due("again(0)", x.again(0), 0);
+        due("the tape is not of the image", x.count(7), 14);
         CHECK.dueAll("the other church", new long[] {x.count(6), x.count(4), x.count(5), x.fault(0)}, 1, 0, 0, 2);
         due("image(1) in place of it", x.image(1), 0);
         x.again(1);
