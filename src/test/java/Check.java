@@ -60,4 +60,15 @@ final class Check {
             x.write(slot, i, numbers[i]);
         }
     }
+
+    /** Goes the way of the settling by the calls themselves, at most so many moves: how many there were. */
+    static int movesBy(PassedPenance x, int most) {
+        int moves = 0;
+        while (moves < most && x.stir() != 0) {
+            int mover = Integer.numberOfTrailingZeros(x.stir());
+            x.move(mover, x.hour(mover));
+            moves++;
+        }
+        return moves;
+    }
 }

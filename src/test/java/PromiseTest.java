@@ -1,20 +1,10 @@
 /** Each promise of the document with answers worked out by hand. */
 public final class PromiseTest {
-    /*
-     * Costs (penance 0, 1, 2): person 0: 6 20 2, person 1: 3 10 8, person 2: 9 30 3, person 3: 3 10 1.
-     * Box 0: 1 gets 2, 0 gets 1, 2 gets 0; box 1: 3 gets nothing.
-     */
-    private static final String SAMPLE = "church hours 4 boxes 2 odds 50;\n"
-            + "penance days 3; penance days 10; penance days 1;\n"
-            + "person sin 0 at 1 bears 2;\n"
-            + "person sin 1 at 0 box 0 bears 1 minds 2 500 minds 2 7;\n"
-            + "person sin 2 at 1 bears 3;\n"
-            + "person sin 0 at 2 box 1 bears 1;\n"
-            + "left 0 1; left 0 2;";
-    private static final String HEAD = "church hours 3 boxes 2 odds 50;";
-    private static final String EMPTY = "church hours 1 boxes 1 odds 0;";
-    private static final int FAR = Integer.MAX_VALUE;
-    private static final int DEEP = Integer.MIN_VALUE;
+    private static final String SAMPLE = Made.SAMPLE;
+    private static final String HEAD = Made.HEAD;
+    private static final String EMPTY = Made.EMPTY;
+    private static final int FAR = Made.FAR;
+    private static final int DEEP = Made.DEEP;
 
     private static final Check CHECK = new Check();
 
@@ -23,7 +13,7 @@ public final class PromiseTest {
     }
 
     private static PassedPenance sample() {
-        return Check.told(SAMPLE);
+        return Made.sample();
     }
 
     public static void main(String[] args) {
@@ -387,7 +377,7 @@ public final class PromiseTest {
         CHECK.dueAll("empty box", new long[] {none.best(0), none.orders(0, 0), none.most(0), none.fair(0),
             none.likes(0), none.ways(0)}, 0, -1, 0, 0, 0, 1);
         // Seven alike: every order is as good, six get what is like their own.
-        PassedPenance seven = Check.told(EMPTY + "penance days 2;" + "person sin 0 at 0 bears 1;".repeat(7));
+        PassedPenance seven = Made.seven();
         CHECK.dueAll("seven alike", new long[] {seven.best(0), seven.most(0), seven.fair(0), seven.likes(0),
             seven.ways(0)}, 12, 12, 2, 6, 5040);
         for (int k = 0; k < 7; k++) {
@@ -425,22 +415,11 @@ public final class PromiseTest {
         CHECK.dueAll("no church", new long[] {nothing.stir(), nothing.settles(), nothing.settled(0)}, -2, -2, -2);
     }
 
-    /** Goes the way of the settling by the calls themselves: how many moves, at most 99. */
-    private static int movesBy(PassedPenance x) {
-        int moves = 0;
-        while (x.stir() != 0 && moves < 99) {
-            int mover = Integer.numberOfTrailingZeros(x.stir());
-            x.move(mover, x.hour(mover));
-            moves++;
-        }
-        return moves;
-    }
-
     private static void settling(String text, int moves) {
         PassedPenance x = Check.told(text);
         PassedPenance way = Check.told(text);
         due("settles() of " + text, x.settles(), moves > 60 ? -1 : moves);
-        due("moves of " + text, movesBy(way), moves);
+        due("moves of " + text, Check.movesBy(way, 99), moves);
         for (int p = 0; p < x.count(4); p++) {
             due("settled(" + p + ") of " + text, x.settled(p), moves > 60 ? -1 : way.person(p, 1));
         }
@@ -453,12 +432,8 @@ public final class PromiseTest {
                 + "person sin 1 at 0 bears 1; person sin 2 at 0 bears 1; left 0 0;");
         CHECK.dueAll("flee", new long[] {x.stir(), x.settles(), x.settled(0), x.settled(1)}, 1, 4, 2, 2);
         settling(SAMPLE, 1);
-        settling("church hours 8 boxes 1 odds 0;penance days 1;penance days 4;penance days 2;person sin 1 at 6 bears 1;"
-                + "person sin 2 at 3 bears 1;person sin 2 at 0 bears 1 minds 2 7;person sin 0 at 1 bears 1;"
-                + "person sin 0 at 2 bears 1 minds 0 4;left 0 0;", 60);
-        settling("church hours 12 boxes 1 odds 0;penance days 4;penance days 1;penance days 2;person sin 2 at 0 bears 1;"
-                + "person sin 2 at 6 bears 1;person sin 1 at 1 bears 1 minds 1 5;person sin 1 at 5 bears 1 minds 1 4;"
-                + "left 0 0;", 61);
+        settling(Made.SIXTY, 60);
+        settling(Made.SIXTY_ONE, 61);
         settling("church hours 8 boxes 1 odds 0;penance days 0;penance days 2;penance days 3;person sin 0 at 3 bears 1;"
                 + "person sin 0 at 4 bears 1 minds 0 7;person sin 1 at 6 bears 1;left 0 2;", 99);
     }
@@ -545,7 +520,7 @@ public final class PromiseTest {
         none.row(2, 0, 0);
         CHECK.dueAll("nobody", new long[] {none.fits(2, 0), none.firsts(2, 0), none.ask(2, 0), none.leaves(2, 0),
             none.may(2, 0, 0)}, 1, 0, -1, 1, -2);
-        PassedPenance seven = Check.told(EMPTY + "penance days 2;" + "person sin 0 at 0 bears 1;".repeat(7));
+        PassedPenance seven = Made.seven();
         seven.row(3, 3, 0);
         CHECK.dueAll("seven alike", new long[] {seven.fits(3, 0), seven.firsts(3, 0), seven.may(3, 0, 6), seven.ask(3, 0),
             seven.leaves(3, 0)}, 5040, 127, 257, 0, 4320);
