@@ -114,6 +114,8 @@ final class ActBounds {
         PassedPenance x = Made.full();
         s.dueAll("nobody, nothing, two, three", new long[] {x.sum(), x.confess(6), x.sum(), x.confess(0), x.sum(), x.confess(2),
             x.sum()}, 0, -1, 0, 6, 16, 7, 969);
+        s.dueAll("taken back", new long[] {x.undo(), x.sum(), x.undo(), x.sum(), x.confess(0), x.sum(), x.anew(), x.sum()},
+                2, 16, 1, 0, 6, 16, 2, 0);
         PassedPenance greatest = Check.told(Made.EMPTY + "penance days 99;"
                 + "person sin 0 at 0 bears 9 minds 0 999;".repeat(7) + "left 0 0;");
         for (int p = 0; p < 7; p++) {
@@ -242,6 +244,16 @@ final class ActBounds {
             s.dueAll("it keeps it still", new long[] {x.again(k), x.count(5), x.count(6), x.done(), x.minds(1, 2), x.box(0)},
                     0, 40, 10, 3, 7, 2);
         }
+        PassedPenance other = Made.busy();
+        other.clear(0, 1);
+        other.image(0);
+        other.anew();
+        other.confess(3);
+        other.confess(2);
+        other.confess(0);
+        s.dueAll("the acts are those of the image", new long[] {other.again(0), other.undo(), other.has(0), other.has(1),
+            other.undo(), other.has(0), other.has(1), other.now(0), other.undo(), other.now(0), other.now(1), other.done()},
+                0, 2, 1, 2, 1, -3, 2, 1, 0, 2, -1, 0);
         PassedPenance y = Made.busy();
         y.image(0);
         y.undo();

@@ -153,6 +153,7 @@ final class ChurchBounds {
         s.of(16, "COSTS of what all of a BOX GET, together. -2 likewise.");
         s.dueAll("bears", new long[] {x.bears(0), x.bears(1), x.bears(2)}, 131, 55, 1025);
         s.dueAll("boxes of nobody", new long[] {y.bears(0), y.bears(1)}, 0, 0);
+        s.dueAll("of the box alone", new long[] {Made.sample().bears(0), Made.sample().bears(1)}, 37, 0);
         s.refused(-2, Made::full, z -> z.bears(3), z -> z.bears(-1));
         s.refused(-2, Made::busy, z -> z.bears(2), z -> z.bears(FAR), z -> z.bears(DEEP));
         s.noChurch(z -> z.bears(0));
@@ -184,7 +185,7 @@ final class ChurchBounds {
         s.of(19, "NONE: nobody; -2 likewise.");
         s.due("as much", Made.apart(new long[][] {{5, 5}}, 1).worst(), -1);
         s.due("less", Made.apart(new long[][] {{5, 4}, {3, 9}}, 1, -1).worst(), -1);
-        s.due("nobody there", Made.nobody().worst(), -1);
+        s.dueAll("seven, nobody there", new long[] {Made.seven().worst(), Made.nobody().worst()}, -1, -1);
         s.noChurch(x -> x.worst());
     }
 
@@ -224,6 +225,7 @@ final class ChurchBounds {
         s.due("first of several", Made.apart(new long[][] {{9, 4, 4}, {3, 3, 3}, {3, 3, 3}}, 0, 1, 2).kneel(0), 1);
         s.of(22, "NONE: nobody; -2: there is none such.");
         s.due("one alone", Made.apart(new long[][] {{5, 4}}, 0).kneel(0), -1);
+        s.dueAll("of seven", new long[] {Made.seven().kneel(0), Made.seven().kneel(6)}, -1, -1);
         s.refused(-2, Made::full, y -> y.kneel(7), y -> y.kneel(-1));
         s.refused(-2, Made::busy, y -> y.kneel(4), y -> y.kneel(FAR), y -> y.kneel(DEEP));
         s.refused(-2, Made::nobody, y -> y.kneel(0));

@@ -55,11 +55,15 @@ final class Made {
         return x;
     }
 
+    static PassedPenance full() {
+        return Check.told(fullText());
+    }
+
     /**
      * As many of all as there may be. Penance i has 10 + i days; person p told p, comes in hour p to box p modulo 3,
      * bears p + 1, minds 7 by 900 + p; 7 lies in box 2, nothing in the others.
      */
-    static PassedPenance full() {
+    static String fullText() {
         StringBuilder text = new StringBuilder("church hours 12 boxes 3 odds 100;");
         for (int i = 0; i < 8; i++) {
             text.append("penance days 1").append(i).append(';');
@@ -68,7 +72,7 @@ final class Made {
             text.append("person sin ").append(p).append(" at ").append(p).append(" box ").append(p % 3);
             text.append(" bears ").append(p + 1).append(" minds 7 90").append(p).append(';');
         }
-        return Check.told(text + "left 2 7;");
+        return text + "left 2 7;";
     }
 
     /** The sample church with rows in slots 0, 1 and 2, an image of one act, and bytes on the tape; no acts. */
@@ -158,6 +162,38 @@ final class Made {
             seen[n++] = x.sum();
             seen[n++] = x.penance(0);
             seen[n++] = x.person(0, 1);
+        }
+        return java.util.Arrays.copyOf(seen, n);
+    }
+
+    /** What is answered to every question about the church that was told. */
+    static long[] answers(PassedPenance x) {
+        long[] seen = new long[400];
+        int n = 0;
+        for (int p = 0; p < 7; p++) {
+            long[] ofPerson = {x.gets(p), x.giver(p), x.back(p, 1), x.ahead(p), x.kneel(p), x.sins(p), x.sinned(p), x.hour(p),
+                x.comes(p, 0), x.comes(p, 11), x.settled(p), x.dealt(p), x.fate(7, p), x.luck(7, 9, p)};
+            for (long answer : ofPerson) {
+                seen[n++] = answer;
+            }
+            for (int i = 0; i < 8; i++) {
+                seen[n++] = x.cost(p, i);
+            }
+        }
+        for (int b = 0; b < 3; b++) {
+            long[] ofBox = {x.last(b), x.bears(b), x.best(b), x.most(b), x.fair(b), x.likes(b), x.ways(b)};
+            for (long answer : ofBox) {
+                seen[n++] = answer;
+            }
+            for (int k = 0; k < 7; k++) {
+                seen[n++] = x.queue(b, k);
+                seen[n++] = x.orders(b, k);
+            }
+        }
+        long[] ofAll = {x.own(), x.gain(), x.worst(), x.passes(-1), x.passes(0), x.stir(), x.settles(), x.swaps(), x.swap(0),
+            x.swap(1), x.trades(), x.deal(), x.drawn(7, 0), x.drawn(7, 1)};
+        for (long answer : ofAll) {
+            seen[n++] = answer;
         }
         return java.util.Arrays.copyOf(seen, n);
     }

@@ -111,6 +111,10 @@ final class MeanBounds {
         s.due("one that is too long", x.choose(0), 3);
         Check.lay(x, 0, 1, 0);
         s.due("0 / 1 and 0 / 9", x.choose(0), 0);
+        PassedPenance once = Made.apart(new long[][] {{0, 10, 4}}, 0);
+        Check.lay(once, 0, 1, 1, 0);
+        Check.lay(once, 1, 0, 0, 1);
+        s.due("who can't let one pass", once.choose(0), 1);
         s.of(47, "NONE: none is; -2: there is none such.");
         s.refused(-1, Made::two, y -> y.choose(0));
         s.refused(-1, () -> often(0, 0), y -> y.choose(0));

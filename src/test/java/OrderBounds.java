@@ -68,6 +68,10 @@ final class OrderBounds {
         for (int k = 0; k < 7; k++) {
             s.due("orders(0, " + k + ") of seven alike", seven.orders(0, k), k);
         }
+        PassedPenance free = Check.told(Made.SEVEN.replace("days 2", "days 0"));
+        for (int k = 0; k < 7; k++) {
+            s.due("orders(0, " + k + ") of seven at no cost", free.orders(0, k), k);
+        }
         PassedPenance full = Made.full();
         s.dueAll("full", new long[] {full.orders(0, 0), full.orders(0, 1), full.orders(0, 2), full.orders(1, 0),
             full.orders(1, 1), full.orders(2, 0), full.orders(2, 1)}, 6, 0, 3, 4, 1, 2, 5);
@@ -215,6 +219,10 @@ final class OrderBounds {
         s.due("one gets what is nobody's", Check.told(Made.EMPTY + "penance days 1;penance days 1;"
                 + "person sin 0 at 0 bears 1;left 0 1;").swaps(), -1);
         s.due("too many of one", Check.told(ring(3).replace("left 0 2", "left 0 1")).swaps(), -1);
+        // They get 0 0 2, and told 1 each.
+        s.due("none of theirs", Check.told("church hours 1 boxes 3 odds 0;penance days 1;penance days 1;penance days 1;"
+                + "person sin 1 at 0 bears 1;person sin 1 at 0 box 1 bears 1;person sin 1 at 0 box 2 bears 1;"
+                + "left 0 0;left 1 0;left 2 2;").swaps(), -1);
         s.due("nobody there", Made.nobody().swaps(), 0);
         s.noChurch(x -> x.swaps());
     }
@@ -227,6 +235,11 @@ final class OrderBounds {
         PassedPenance pair = Check.told("church hours 1 boxes 2 odds 0;penance days 1;penance days 2;penance days 3;"
                 + "person sin 0 at 0 bears 1;person sin 1 at 0 box 1 bears 1;person sin 2 at 0 box 1 bears 1;left 0 0;left 1 2;");
         s.dueAll("a pair", new long[] {pair.swap(0), pair.swap(1)}, 1, 2);
+        // The first five have their own, the last two of box 1 one another's.
+        PassedPenance late = Check.told("church hours 1 boxes 2 odds 0;penance days 1;penance days 2;"
+                + "person sin 0 at 0 bears 1;".repeat(5) + "person sin 0 at 0 box 1 bears 1;person sin 1 at 0 box 1 bears 1;"
+                + "left 0 0;left 1 1;");
+        s.dueAll("the last pair", new long[] {late.swaps(), late.swap(0), late.swap(1)}, 1, 5, 6);
         // Own 0 1 0 2, gotten 2 0 1 0: a ring of 0, 3 and one of 1, 2. No swap of 0 with 1 or 2 makes it less.
         PassedPenance rings = Check.told(Made.EMPTY + "penance days 1;penance days 1;penance days 1;person sin 0 at 0 bears 1;"
                 + "person sin 1 at 0 bears 1;person sin 0 at 0 bears 1;person sin 2 at 0 bears 1;left 0 2;");
@@ -251,7 +264,8 @@ final class OrderBounds {
         s.due("with nothing", Made.apart(new long[][] {{5, 4}, {4, 5}}, 0, -1).trades(), 0);
         s.due("three pairs", Made.apart(new long[][] {{9, 1, 1}, {1, 9, 1}, {1, 1, 9}}, 0, 1, 2).trades(), 3);
         s.due("two pairs", Made.apart(new long[][] {{9, 1, 1}, {1, 9, 9}, {1, 9, 9}}, 0, 1, 2).trades(), 2);
-        s.dueAll("one, nobody", new long[] {Made.apart(new long[][] {{1}}, 0).trades(), Made.nobody().trades()}, 0, 0);
+        s.dueAll("seven, one, nobody", new long[] {Made.seven().trades(), Made.apart(new long[][] {{1}}, 0).trades(),
+            Made.nobody().trades()}, 0, 0, 0);
         s.noChurch(x -> x.trades());
     }
 

@@ -156,7 +156,9 @@ final class TextBounds {
         fine(ONE + "person sin 0 at 0 box 0 bears 1;", 3);
         faulty(ONE + "person sin 0 at 0 box 1 bears 1;", 2, 67);
         bound(twelve + "person sin 0 at 0 box ", " bears 1;", 0, 2, x -> x.person(0, 2));
-        s.due("0 without", fine(twelve + "person sin 0 at 0 box 2 bears 1;" + PERSON, 4).person(1, 2), 0);
+        PassedPenance anew = fine(twelve + "person sin 0 at 0 box 2 bears 1;" + PERSON, 4);
+        s.due("0 without", anew.person(1, 2), 0);
+        s.dueAll("0 without, told anew", new long[] {Check.tell(anew, twelve + PERSON), anew.person(0, 2)}, 3, 0);
         s.of("I", "bears 1 .. 9");
         bound(ONE + "person sin 0 at 0 bears ", ";", 1, 9, x -> x.person(0, 3));
     }
@@ -375,6 +377,7 @@ final class TextBounds {
         s.dueAll("nothing done", new long[] {x.count(5), x.done(), x.has(0), x.sum(), x.now(0), x.undo()}, 0, 0, -3, 0, -1, -5);
         s.dueAll("the tape is empty", new long[] {x.count(7), x.end(1)}, 0, -1);
         s.dueAll("slots, images stay", new long[] {x.count(8), x.again(0), x.count(5), x.count(4)}, 1, 0, 1, 7);
+        inPlaceOfAnother();
         s.of(4, "(0: there is none then)");
         PassedPenance y = Made.busy();
         s.dueAll("of no bytes", new long[] {y.end(0), y.church(), y.count(6), y.own(), y.penance(0), y.count(5), y.count(0)},
@@ -382,6 +385,26 @@ final class TextBounds {
         PassedPenance z = Made.busy();
         z.end(0);
         s.dueAll("of blanks", new long[] {Check.tell(z, " \n"), z.count(7), z.own(), z.undo()}, 0, 0, -2, -2);
+    }
+
+    /** Nothing of a church that was there, and was asked, is left in another one. */
+    private void inPlaceOfAnother() {
+        String[] texts = {Made.fullText(), Made.SAMPLE, Made.SEVEN + "left 0 0;", Made.SIXTY, Made.TWO, EMPTY, "",
+            ONE + "person sin 0 at 0 bears 9 minds 0 999;"};
+        for (String first : texts) {
+            for (String second : texts) {
+                PassedPenance x = Check.told(first);
+                x.row(0, 0, 0);
+                long[] asked = {x.likes(0), x.likes(2), x.deal(), x.swap(0), x.fits(0, 0), x.settles(), x.confess(0)};
+                Check.tell(x, second);
+                s.due(asked.length + " questions ahead", x.count(8), 1);
+                s.dueAll("answers", Made.answers(x), Made.answers(Check.told(second)));
+                x = Check.told(first);
+                x.confess(0);
+                Check.tell(x, second);
+                s.dueAll("state", Made.state(x), Made.state(Check.told(second)));
+            }
+        }
     }
 
     private void churchWithFault() {
