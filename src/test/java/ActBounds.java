@@ -195,7 +195,8 @@ final class ActBounds {
     // ---- 63 ----
 
     private void count() {
-        s.of(63, "0 hours, 1 BOXES, 2 odds, 3 PENANCES, 4 PERSONS, 5 acts, 6 LINES, 7 bytes of the TAPE, 8 SLOTS that have a row.");
+        s.of(63, "0 hours, 1 BOXES, 2 odds, 3 PENANCES, 4 PERSONS, 5 acts, 6 LINES, 7 bytes of the TAPE, 8 SLOTS "
+                + "that have a row.");
         PassedPenance x = Made.busy();
         s.dueAll("busy", new long[] {x.count(0), x.count(1), x.count(2), x.count(3), x.count(4), x.count(5), x.count(6),
             x.count(7), x.count(8)}, 4, 2, 50, 3, 4, 2, 10, 20, 3);

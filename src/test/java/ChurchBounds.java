@@ -177,7 +177,8 @@ final class ChurchBounds {
     }
 
     private void worst() {
-        s.of(19, "The PERSON whose COST is most by what he GETS above that of his own one, the first of several, if it is above.");
+        s.of(19, "The PERSON whose COST is most by what he GETS above that of his own one, the first of several, if "
+                + "it is above.");
         // Each told 0; what each gets costs him so much more than that.
         s.due("above by one", Made.apart(new long[][] {{5, 6}}, 1).worst(), 0);
         s.due("the greatest cost, not the most above", Made.apart(new long[][] {{500, 501}, {1, 5}}, 1, 1).worst(), 1);
@@ -209,7 +210,8 @@ final class ChurchBounds {
     }
 
     private void kneel() {
-        s.of(22, "KNEEL: of a PERSON the other one by a swap with whom (of what both GET) the first would have least COST, if less than now");
+        s.of(22, "KNEEL: of a PERSON the other one by a swap with whom (of what both GET) the first would have least "
+                + "COST, if less than now");
         s.due("less by one", Made.apart(new long[][] {{5, 4}, {3, 3}}, 0, 1).kneel(0), 1);
         s.due("as much", Made.apart(new long[][] {{5, 5}, {3, 3}}, 0, 1).kneel(0), -1);
         s.due("more", Made.apart(new long[][] {{5, 6}, {3, 3}}, 0, 1).kneel(0), -1);
@@ -236,7 +238,8 @@ final class ChurchBounds {
         // What 0 tells is what 1 gets; both mind by so much.
         String two = "church hours 2 boxes 1 odds 0;penance days 0;penance days 0;penance days 0;"
                 + "person sin 0 at 0 bears 1;person sin 0 at 1 bears 1 minds 0 5 minds 1 4 minds 2 4;";
-        s.of(23, "SIN: the least COSTS of what all GET, together, if the own PENANCE of a PERSON were any one. -2 likewise.");
+        s.of(23, "SIN: the least COSTS of what all GET, together, if the own PENANCE of a PERSON were any one. -2 "
+                + "likewise.");
         PassedPenance x = Check.told(two + "left 0 0;");
         s.dueAll("sins", new long[] {x.sins(0), x.sins(1), x.person(0, 0), x.bears(0)}, 4, 5, 0, 5);
         s.due("all boxes count", Check.told(two.replace("boxes 1", "boxes 2")

@@ -31,7 +31,8 @@ final class MeanBounds {
     }
 
     private void mean() {
-        s.of(46, "MEAN: a SLOT's row, as many numbers as PENANCES: how often (0 .. 9 each, not all 0) each lies in a box: the mean COST for a PERSON who goes to it, above (what 0), below (1).");
+        s.of(46, "MEAN: a SLOT's row, as many numbers as PENANCES: how often (0 .. 9 each, not all 0) each lies in a "
+                + "box: the mean COST for a PERSON who goes to it, above (what 0), below (1).");
         long[][] rows = {{1, 1}, {9, 9}, {0, 9}, {9, 0}, {0, 1}, {1, 0}, {9, 1}, {1, 9}, {3, 6}};
         long[][] means = {{1, 2}, {1, 2}, {1, 1}, {0, 1}, {1, 1}, {0, 1}, {1, 10}, {9, 10}, {2, 3}};
         for (int i = 0; i < rows.length; i++) {
@@ -94,7 +95,8 @@ final class MeanBounds {
     }
 
     private void choose() {
-        s.of(47, "CHOOSE: the SLOT, of those whose row is such a one, with the least MEAN for a PERSON, the first of several.");
+        s.of(47, "CHOOSE: the SLOT, of those whose row is such a one, with the least MEAN for a PERSON, the first of "
+                + "several.");
         PassedPenance x = Made.two();
         Check.lay(x, 3, 0, 9);
         s.due("the last alone", x.choose(0), 3);
@@ -149,7 +151,8 @@ final class MeanBounds {
     }
 
     private void pass() {
-        s.of(48, "PASS (V): the mean COST for a PERSON, if he may see n (1 .. 5) one behind the other, by a SLOT's row as in mean(), and let all but the last one pass, above (what 0), below (1).");
+        s.of(48, "PASS (V): the mean COST for a PERSON, if he may see n (1 .. 5) one behind the other, by a SLOT's "
+                + "row as in mean(), and let all but the last one pass, above (what 0), below (1).");
         PassedPenance x = often(1, 1);
         for (int n = 1; n <= 5; n++) {
             s.dueAll("half of them, " + n, new long[] {x.pass(0, 0, n, 0), x.pass(0, 0, n, 1)}, 1, 1L << n);

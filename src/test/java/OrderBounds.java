@@ -113,7 +113,8 @@ final class OrderBounds {
     // ---- hours ----
 
     private void comesAndHour() {
-        s.of(31, "WAIT: the COST a PERSON would have, if he came in an hour (0 .. hours less 1), all others as they do. -2: there are none such.");
+        s.of(31, "WAIT: the COST a PERSON would have, if he came in an hour (0 .. hours less 1), all others as they "
+                + "do. -2: there are none such.");
         PassedPenance x = Made.sample();
         s.dueAll("comes of 0", new long[] {x.comes(0, 0), x.comes(0, 1), x.comes(0, 2), x.comes(0, 3)}, 2, 20, 2, 2);
         s.dueAll("comes of 2", new long[] {x.comes(2, 0), x.comes(2, 1), x.comes(2, 2), x.comes(2, 3)}, 30, 9, 9, 9);
@@ -156,7 +157,8 @@ final class OrderBounds {
     }
 
     private void settle() {
-        s.of("III", "SETTLE: as long as someone would have less COST by another hour, the first by numbers of those who would comes in the hour that is best for him (hour()).");
+        s.of("III", "SETTLE: as long as someone would have less COST by another hour, the first by numbers of those "
+                + "who would comes in the hour that is best for him (hour()).");
         for (String text : new String[] {Made.SAMPLE, Made.SIXTY, Made.SEVEN}) {
             PassedPenance x = Check.told(text);
             PassedPenance way = Check.told(text);
@@ -206,7 +208,8 @@ final class OrderBounds {
     // ---- swaps, trades, deals ----
 
     private void swaps() {
-        s.of(36, "SWAPS: the fewest swaps of what two PERSONS GET (nothing, too), one behind the other, by which each has a PENANCE like his own.");
+        s.of(36, "SWAPS: the fewest swaps of what two PERSONS GET (nothing, too), one behind the other, by which "
+                + "each has a PENANCE like his own.");
         for (int size = 1; size <= 7; size++) {
             s.due("a ring of " + size, Check.told(ring(size)).swaps(), size - 1);
         }
@@ -257,7 +260,8 @@ final class OrderBounds {
     }
 
     private void trades() {
-        s.of(38, "Pairs of PERSONS who both would have less COST by a swap of what they GET: how many. -2: there is no CHURCH.");
+        s.of(38, "Pairs of PERSONS who both would have less COST by a swap of what they GET: how many. -2: there is "
+                + "no CHURCH.");
         s.due("both less by one", Made.apart(new long[][] {{5, 4}, {4, 5}}, 0, 1).trades(), 1);
         s.due("0 as much", Made.apart(new long[][] {{5, 5}, {4, 5}}, 0, 1).trades(), 0);
         s.due("1 as much", Made.apart(new long[][] {{5, 4}, {5, 5}}, 0, 1).trades(), 0);
@@ -282,7 +286,8 @@ final class OrderBounds {
     }
 
     private void dealt() {
-        s.of("IV", "The first such: PERSON by PERSON (by numbers) the least PENANCE (nothing last) by which it is still as little.");
+        s.of("IV", "The first such: PERSON by PERSON (by numbers) the least PENANCE (nothing last) by which it is "
+                + "still as little.");
         PassedPenance ring = Check.told(RING);
         for (int p = 0; p < 7; p++) {
             s.due("dealt(" + p + ") of the ring", ring.dealt(p), p);

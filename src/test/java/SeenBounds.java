@@ -30,7 +30,8 @@ final class SeenBounds {
     }
 
     private void fits() {
-        s.of(41, "FITS: a SLOT's row, two numbers each: a PERSON of a BOX, the PENANCE he was seen to get (NONE: nothing): orders of those of the BOX by which all is so: how many.");
+        s.of(41, "FITS: a SLOT's row, two numbers each: a PERSON of a BOX, the PENANCE he was seen to get (NONE: "
+                + "nothing): orders of those of the BOX by which all is so: how many.");
         s.dueAll("fits", new long[] {seen().fits(0, 0), seen(0, 2).fits(0, 0), seen(0, 2, 1, 0).fits(0, 0),
             seen(2, 2, 0, 1).fits(0, 0), seen(0, 0).fits(0, 0), seen(0, -1).fits(0, 0), seen(0, 2, 0, 1).fits(0, 0)},
                 6, 4, 2, 1, 0, 0, 0);
@@ -130,7 +131,8 @@ final class SeenBounds {
     }
 
     private void ask() {
-        s.of(44, "The PERSON of the BOX of whom it tells most to know what he got (at worst by what it is, fewest orders left), if fewer than now, the first of several.");
+        s.of(44, "The PERSON of the BOX of whom it tells most to know what he got (at worst by what it is, fewest "
+                + "orders left), if fewer than now, the first of several.");
         s.dueAll("ask", new long[] {seen().ask(0, 0), seen(0, 2).ask(0, 0), seen(0, 2, 1, 0).ask(0, 0)}, 2, 1, 2);
         s.dueAll("first of several", new long[] {seven().ask(0, 0), seven().ask(2, 0)}, 0, 0);
         PassedPenance known = Made.seven();

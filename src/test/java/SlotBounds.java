@@ -141,7 +141,8 @@ final class SlotBounds {
     }
 
     private void paste() {
-        s.of(68, "So many numbers of a SLOT's row, from one on, are put to another one's (or its own), from one on, as they were: 0.");
+        s.of(68, "So many numbers of a SLOT's row, from one on, are put to another one's (or its own), from one on, "
+                + "as they were: 0.");
         long[] one = {1, 2, 3, 4, 5};
         long[] other = {6, 7, 8};
         pasted(new int[] {0, 1, 1, 0, 2}, one, new long[] {2, 3, 8});

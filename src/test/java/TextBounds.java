@@ -90,7 +90,8 @@ final class TextBounds {
 
     /** Every token of every kind of line: something else in its place, and the text's end ahead of it. */
     private void linesTokenByToken() {
-        s.of("I", "LINE: church hours N boxes N odds N | penance days N | person sin P at N [box N] bears N {minds P N} | left N P.");
+        s.of("I", "LINE: church hours N boxes N odds N | penance days N | person sin P at N [box N] bears N {minds P "
+                + "N} | left N P.");
         String[] tokens = ("church hours 4 boxes 3 odds 5 ; penance days 1 ; penance days 2 ; person sin 0 at 2 bears 3 ; "
                 + "person sin 1 at 3 box 2 bears 9 ; person sin 0 at 0 box 1 bears 1 minds 1 4 minds 0 5 ; left 1 0 ;").split(" ");
         String ahead = "";
@@ -271,7 +272,8 @@ final class TextBounds {
     }
 
     private void kindsOfFaults() {
-        s.of("FAULTS", "1 a TOKEN that is none, or can't stand there (church behind the first LINE, another word ahead of it).");
+        s.of("FAULTS", "1 a TOKEN that is none, or can't stand there (church behind the first LINE, another word "
+                + "ahead of it).");
         faulty("church, hours", 1, 6);
         faulty("Church hours", 1, 0);
         faulty("hours 1", 1, 0);

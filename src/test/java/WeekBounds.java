@@ -46,7 +46,8 @@ final class WeekBounds {
     }
 
     private void draws() {
-        s.of("VI", "DRAWS: x becomes (1103515245 x + 12345) modulo 2,147,483,648 (at first it is the seed); a draw: x / 65536, cut, modulo 100.");
+        s.of("VI", "DRAWS: x becomes (1103515245 x + 12345) modulo 2,147,483,648 (at first it is the seed); a draw: "
+                + "x / 65536, cut, modulo 100.");
         for (int seed : SEEDS) {
             int[] draws = drawsOf(seed);
             for (int i = 0; i < 7; i++) {
@@ -76,7 +77,8 @@ final class WeekBounds {
     }
 
     private void drawn() {
-        s.of(58, "WEEK drawn (VI) from a seed (0 .. 2,000,000,000), what 0: PERSONS who come, as bits, 1: COSTS, together, of what they get.");
+        s.of(58, "WEEK drawn (VI) from a seed (0 .. 2,000,000,000), what 0: PERSONS who come, as bits, 1: COSTS, "
+                + "together, of what they get.");
         PassedPenance x = Made.sample();
         s.dueAll("drawn", new long[] {x.drawn(0, 0), x.drawn(0, 1), x.drawn(1, 1), x.drawn(2, 1), x.drawn(3, 0), x.drawn(3, 1),
             x.drawn(MOST_SEED, 0), x.drawn(MOST_SEED, 1)}, 9, 2, 11, 37, 11, 28, 15, 37);
@@ -113,7 +115,8 @@ final class WeekBounds {
     }
 
     private void luck() {
-        s.of(60, "Of n (1 .. 20) such from seeds, the seed and 1, .., in how many a PERSON has no more COST than of his own one (0, if he does not come).");
+        s.of(60, "Of n (1 .. 20) such from seeds, the seed and 1, .., in how many a PERSON has no more COST than of "
+                + "his own one (0, if he does not come).");
         s.dueAll("less, as much, more by one", new long[] {one(100, 4).luck(0, 20, 0), one(100, 5).luck(0, 20, 0),
             one(100, 6).luck(0, 20, 0)}, 20, 20, 0);
         s.due("he does not come", one(0, 99).luck(0, 20, 0), 20);
