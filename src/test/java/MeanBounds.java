@@ -85,13 +85,16 @@ final class MeanBounds {
     }
 
     private void meanRefused() {
-        s.of(46, "-2: there are none such, a number is none such (asked last), not so many, all 0; -6: it has nothing.");
+        s.of(46, "-2: there are none such, a number is none such (asked last), not so many, all 0");
         refusedBy((x, slot, person) -> x.mean(slot, person, 0));
         refusedBy((x, slot, person) -> x.mean(slot, person, 1));
         s.refused(-2, Made::busy, x -> x.mean(0, 0, 2), x -> x.mean(0, 0, -1), x -> x.mean(0, 0, FAR), x -> x.mean(0, 0, DEEP),
                 x -> x.mean(3, 0, 2), x -> x.mean(3, 0, -1));
         s.refused(26, Made::busy, x -> x.mean(0, 0, 0));
         s.refused(3, Made::busy, x -> x.mean(0, 0, 1));
+        s.of(46, "-6: it has nothing.");
+        s.refused(-6, Made::busy, x -> x.mean(3, 0, 0), x -> x.mean(3, 3, 1));
+        s.refused(-6, Made::two, x -> x.mean(0, 0, 0), x -> x.mean(3, 0, 1));
     }
 
     private void choose() {
@@ -117,11 +120,12 @@ final class MeanBounds {
         Check.lay(once, 0, 1, 1, 0);
         Check.lay(once, 1, 0, 0, 1);
         s.due("who can't let one pass", once.choose(0), 1);
-        s.of(47, "NONE: none is; -2: there is none such.");
+        s.of(47, "NONE: none is");
         s.refused(-1, Made::two, y -> y.choose(0));
         s.refused(-1, () -> often(0, 0), y -> y.choose(0));
         s.refused(-1, () -> often(1), y -> y.choose(0));
         s.refused(0, () -> often(0, 1), y -> y.choose(0));
+        s.of(47, "-2: there is none such.");
         s.refused(-2, () -> often(0, 1), y -> y.choose(1), y -> y.choose(-1), y -> y.choose(FAR), y -> y.choose(DEEP));
         s.refused(-2, Made::two, y -> y.choose(1), y -> y.choose(-1));
         s.refused(-2, Made::full, y -> y.choose(7));
@@ -183,10 +187,11 @@ final class MeanBounds {
         Check.lay(x, 0, 1, 1);
         s.dueAll("takes", new long[] {x.takes(0, 0, 2), x.takes(0, 0, 3), x.takes(0, 0, 4), x.takes(0, 0, 5)},
                 499, 249, 124, 62);
-        s.of(49, "1,000,000: any (n 1); -2, -6 likewise.");
+        s.of(49, "1,000,000: any (n 1)");
         s.dueAll("any", new long[] {x.takes(0, 0, 1), often(1, 0).takes(0, 0, 1)}, 1000000, 1000000);
         refusedBy((y, slot, person) -> y.takes(slot, person, 1));
         refusedBy((y, slot, person) -> y.takes(slot, person, 5));
+        s.of(49, "-2, -6 likewise.");
         s.refused(-2, () -> often(1, 1), y -> y.takes(0, 0, 0), y -> y.takes(0, 0, 6), y -> y.takes(0, 0, FAR),
                 y -> y.takes(0, 0, DEEP));
         s.refused(-2, Made::two, y -> y.takes(0, 0, 0), y -> y.takes(0, 0, 6));

@@ -74,11 +74,14 @@ final class SeenBounds {
     }
 
     private void fitsRefused() {
-        s.of(41, "-2: there is no such SLOT, BOX, a number is none such (asked last), not two each; -6: it has nothing.");
+        s.of(41, "-2: there is no such SLOT, BOX, a number is none such (asked last), not two each");
         refusedBy((x, slot, box) -> x.fits(slot, box));
         s.refused(6, Made::busy, x -> x.fits(2, 0));
         s.refused(1, Made::busy, x -> x.fits(2, 1));
         s.refused(4, Made::busy, x -> x.fits(1, 0));
+        s.of(41, "-6: it has nothing.");
+        s.refused(-6, Made::busy, x -> x.fits(3, 0), x -> x.fits(3, 1));
+        s.refused(-6, Made::sample, x -> x.fits(0, 0), x -> x.fits(1, 0), x -> x.fits(2, 1));
     }
 
     /** Slot 0 has an empty row; by slot 1 the last got nothing, by slot 2 he did not. */
@@ -91,11 +94,12 @@ final class SeenBounds {
     }
 
     private void firsts() {
-        s.of(42, "PERSONS who are first by some of these, as bits. -2, -6 likewise.");
+        s.of(42, "PERSONS who are first by some of these, as bits.");
         s.dueAll("firsts", new long[] {seen().firsts(0, 0), seen(0, 2, 1, 0).firsts(0, 0), seen(2, 2, 0, 1).firsts(0, 0),
             seen(0, 0).firsts(0, 0), seen(3, -1).firsts(0, 1), seen(3, 0).firsts(0, 1)}, 7, 5, 4, 0, 8, 0);
         PassedPenance seven = seven();
         s.dueAll("seven", new long[] {seven.firsts(0, 0), seven.firsts(1, 0), seven.firsts(2, 0)}, 127, 64, 63);
+        s.of(42, "-2, -6 likewise.");
         refusedBy((x, slot, box) -> x.firsts(slot, box));
     }
 
@@ -138,19 +142,21 @@ final class SeenBounds {
         PassedPenance known = Made.seven();
         Check.lay(known, 0, 0, 0);
         s.due("of 0 it is known", known.ask(0, 0), 1);
-        s.of(44, "NONE: none; -2, -6 likewise.");
+        s.of(44, "NONE: none");
         s.dueAll("no fewer by any", new long[] {seven().ask(1, 0), alike().ask(0, 0), seen(2, 2, 0, 1).ask(0, 0),
             seen(0, 0).ask(0, 0), seen().ask(0, 1), nobody().ask(0, 0)}, -1, -1, -1, -1, -1, -1);
+        s.of(44, "-2, -6 likewise.");
         refusedBy((x, slot, box) -> x.ask(slot, box));
     }
 
     private void leaves() {
         PassedPenance seven = seven();
-        s.of(45, "How many it leaves at worst (as now without). -2, -6 likewise.");
+        s.of(45, "How many it leaves at worst (as now without).");
         s.dueAll("leaves", new long[] {seen().leaves(0, 0), seen(0, 2).leaves(0, 0), seen(0, 2, 1, 0).leaves(0, 0),
             seven.leaves(0, 0), seven.leaves(2, 0)}, 2, 2, 1, 4320, 3600);
         s.dueAll("as now without", new long[] {seven.leaves(1, 0), alike().leaves(0, 0), seen(2, 2, 0, 1).leaves(0, 0),
             seen(0, 0).leaves(0, 0), seen().leaves(0, 1), nobody().leaves(0, 0)}, 720, 5040, 1, 0, 1, 1);
+        s.of(45, "-2, -6 likewise.");
         refusedBy((x, slot, box) -> x.leaves(slot, box));
     }
 }

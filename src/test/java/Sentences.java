@@ -19,6 +19,7 @@ final class Sentences {
     }
 
     private static final Path DOCUMENT = Path.of("../shared/DOC.md");
+    private static final Pattern SEVERAL = Pattern.compile("[^.]\\. [^.]|; -");
     private static final Pattern WORDS = Pattern.compile("[A-Za-z0-9]");
     private static final Pattern TERM = Pattern.compile("(?m)^(I|II|III|IV|V|VI|  TOKENS|  FAULTS|  SLOTS)[., ](.*)$");
     private static final Pattern PROMISE = Pattern.compile("(?m)^## Promise ([0-9]+): .*\\n\\n`[^`]*`: (.*)$");
@@ -51,6 +52,7 @@ final class Sentences {
         sentences++;
         int at = texts.getOrDefault(section, "").indexOf(quote);
         check.due(sentence + "stands in the document", at >= 0 ? 1 : 0, 1);
+        check.due(sentence + "is one sentence", SEVERAL.matcher(quote).find() ? 1 : 0, 0);
         if (at >= 0) {
             Arrays.fill(quoted.get(section), at, at + quote.length(), true);
         }

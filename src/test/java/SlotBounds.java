@@ -84,7 +84,7 @@ final class SlotBounds {
                 x -> x.row(0, 0, 61), x -> x.row(3, 3, 61), x -> x.row(FAR, 0, 1), x -> x.row(DEEP, 0, 1),
                 x -> x.row(0, FAR, 1), x -> x.row(0, DEEP, 1), x -> x.row(0, 0, FAR), x -> x.row(4, 0, -1),
                 x -> x.row(-1, 0, -1), x -> x.row(0, 4, -1), x -> x.row(0, -1, -1));
-        s.of(66, "; -3, and the SLOT stays: n is below 0.");
+        s.of(66, "-3, and the SLOT stays: n is below 0.");
         s.refused(-3, Made::busy, x -> x.row(0, 0, -1), x -> x.row(0, 1, -1), x -> x.row(1, 3, DEEP), x -> x.row(3, 0, -1));
         s.refused(-3, PassedPenance::new, x -> x.row(0, 0, -1));
     }
@@ -110,12 +110,14 @@ final class SlotBounds {
         s.dueAll("eight bytes are kept", new long[] {x.write(2, 0, 7 + (1L << 32)), valueOf(x, 2, 0, 3),
             x.write(2, 0, 7 + (1L << 8)), valueOf(x, 2, 0, 3), x.write(2, 0, Long.MIN_VALUE), valueOf(x, 2, 0, 3),
             x.write(2, 0, (1L << 32) - 1), valueOf(x, 2, 0, 3)}, 0, OTHER, 0, OTHER, 0, OTHER, 0, OTHER);
-        s.of(67, "-2: there is no such SLOT; -6: it has nothing; -7: there is no such number.");
+        s.of(67, "-2: there is no such SLOT");
         s.refused(-2, Made::busy, y -> y.write(-1, 0, 1), y -> y.write(4, 0, 1), y -> y.write(FAR, -1, 1), y -> y.write(DEEP, 0, 1));
+        s.of(67, "-6: it has nothing");
         s.refused(-6, Made::busy, y -> y.write(3, 0, 1), y -> y.write(3, -1, 1), y -> y.write(3, 60, 1));
+        s.of(67, "-7: there is no such number.");
+        s.refused(0, Made::busy, y -> y.write(0, 0, 1), y -> y.write(0, 2, 3), y -> y.write(1, 1, 2));
         s.refused(-7, Made::busy, y -> y.write(0, -1, 9), y -> y.write(0, 3, 9), y -> y.write(1, 2, 9), y -> y.write(2, 0, 9),
                 y -> y.write(0, FAR, 9), y -> y.write(0, DEEP, 9), y -> y.write(0, 59, 9), y -> y.write(0, 60, 9));
-        s.refused(0, Made::busy, y -> y.write(0, 0, 1), y -> y.write(0, 2, 3), y -> y.write(1, 1, 2));
     }
 
     /** Rows of one width in slots 0 (1 2 3 4 5) and 1 (6 7 8). */
@@ -167,20 +169,22 @@ final class SlotBounds {
     }
 
     private void pasteRefused() {
-        s.of(68, "-2: there is no such SLOT; -6: one has nothing; -8: they are not of one WIDTH");
+        s.of(68, "-2: there is no such SLOT");
         s.refused(-2, Made::busy, x -> x.paste(-1, 0, 0, 0, 1), x -> x.paste(4, 0, 0, 0, 1), x -> x.paste(0, 0, -1, 0, 1),
                 x -> x.paste(0, 0, 4, 0, 1), x -> x.paste(3, 0, 4, 0, 1), x -> x.paste(4, 0, 3, 0, 1),
                 x -> x.paste(FAR, 0, DEEP, 0, 1), x -> x.paste(4, -1, 4, -1, -1));
+        s.of(68, "-6: one has nothing");
         s.refused(-6, Made::busy, x -> x.paste(0, 0, 3, 0, 1), x -> x.paste(3, 0, 0, 0, 1), x -> x.paste(3, 0, 3, 0, 0),
                 x -> x.paste(3, -1, 2, -1, -1), x -> x.paste(0, 0, 3, 0, 0));
-        s.refused(-8, Made::busy, x -> x.paste(0, 0, 2, 0, 0), x -> x.paste(2, 0, 0, 0, 0), x -> x.paste(0, -1, 2, 0, 1),
-                x -> x.paste(0, 0, 2, 0, 99));
+        s.of(68, "-8: they are not of one WIDTH");
         for (int width = 0; width < 16; width++) {
             PassedPenance x = new PassedPenance();
             x.row(0, width / 4, 1);
             x.row(1, width % 4, 1);
             s.due("widths " + width / 4 + " and " + width % 4, x.paste(0, 0, 1, 0, 1), width / 4 == width % 4 ? 0 : -8);
         }
+        s.refused(-8, Made::busy, x -> x.paste(0, 0, 2, 0, 0), x -> x.paste(2, 0, 0, 0, 0), x -> x.paste(0, -1, 2, 0, 1),
+                x -> x.paste(0, 0, 2, 0, 99));
         s.of(68, "-7, and nothing happens: some are beyond their rows, or a place or n is below 0.");
         // Slot 0 has three numbers, slot 1 two, of one width; slot 2 none.
         s.refused(-7, Made::busy, x -> x.paste(0, 0, 0, 0, 4), x -> x.paste(0, 1, 0, 0, 3), x -> x.paste(0, 0, 0, 1, 3),

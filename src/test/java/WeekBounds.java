@@ -95,15 +95,17 @@ final class WeekBounds {
     }
 
     private void fate() {
-        s.of(59, "What a PERSON gets then. NONE: nothing, he does not come; -2: there are none such.");
+        s.of(59, "What a PERSON gets then.");
         PassedPenance x = Made.sample();
-        // By seed 0 person 1 does not come; 3 comes to a box with nothing.
-        s.dueAll("fate", new long[] {x.fate(0, 0), x.fate(0, 1), x.fate(0, 3), x.fate(MOST_SEED, 0), x.fate(MOST_SEED, 1)},
-                2, -1, -1, 1, 2);
+        s.dueAll("fate", new long[] {x.fate(0, 0), x.fate(MOST_SEED, 0), x.fate(MOST_SEED, 1)}, 2, 1, 2);
+        s.refused(3, Made::full, y -> y.fate(0, 6));
+        s.of(59, "NONE: nothing, he does not come");
+        // By seed 0 person 3 comes to a box with nothing; 1 and 2 do not come.
+        s.dueAll("nothing", new long[] {x.drawn(0, 0), x.fate(0, 3), x.fate(0, 1), x.fate(0, 2)}, 9, -1, -1, -1);
+        s.of(59, "-2: there are none such.");
         s.refused(-2, Made::busy, y -> y.fate(-1, 0), y -> y.fate(MOST_SEED + 1, 0), y -> y.fate(FAR, 0), y -> y.fate(DEEP, 0),
                 y -> y.fate(0, 4), y -> y.fate(0, -1), y -> y.fate(0, FAR), y -> y.fate(0, DEEP));
         s.refused(-2, Made::full, y -> y.fate(0, 7));
-        s.refused(3, Made::full, y -> y.fate(0, 6));
         s.refused(-2, Made::nobody, y -> y.fate(0, 0));
         s.noChurch(y -> y.fate(0, 0));
     }
