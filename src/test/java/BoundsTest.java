@@ -12,6 +12,7 @@ public final class BoundsTest {
         new SlotBounds(s).run();
         new ActBounds(s).run();
         new WeekBounds(s).run();
+        new WholeBounds(s).run();
         s.end();
     }
 }

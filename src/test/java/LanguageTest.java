@@ -1,143 +1,156 @@
 import java.io.IOException;
-import java.lang.reflect.Constructor;
-import java.lang.reflect.Field;
 import java.lang.reflect.Method;
 import java.lang.reflect.Modifier;
 import java.nio.file.Files;
 import java.nio.file.Path;
-import java.util.HashSet;
-import java.util.List;
 import java.util.Set;
 import java.util.TreeSet;
-import java.util.regex.Matcher;
-import java.util.regex.Pattern;
 
-/** The face of the document, and the rules of LANGUAGE.md that can be seen from outside. Runs in the project's folder. */
+/**
+ * The rules of LANGUAGE.md, by the compiler's own tree of the source (Rules), and on what they let pass and what not.
+ * Runs in the project's folder.
+ */
 public final class LanguageTest {
     private static final Path SOURCE = Path.of("src/main/java/PassedPenance.java");
-    private static final Path DOCUMENT = Path.of("../shared/DOC.md");
-    private static final String[] RULED_OUT = {"throw", "throws", "try", "catch", "finally", "synchronized", "assert",
-        "->", "::", "Exact", "public static void", "hashCode", "Random", "System.nano", "System.current", "Thread",
-        "protected", "static {", "new Object", "Object "};
+    private static final Check CHECK = new Check();
+    private static final String FACE = "public final class PassedPenance { public PassedPenance() { } ";
 
-    private static int wrong = 0;
-
-    private static void must(boolean holds, String what) {
-        if (!holds) {
-            wrong++;
-            System.out.println("not so: " + what);
-        }
+    private LanguageTest() {
     }
 
     public static void main(String[] args) throws IOException {
-        String source = Files.readString(SOURCE);
-        looksAtText(source);
-        looksAtMethodLengths(source);
-        looksAtFace();
-        looksAtClasses();
-        System.out.println(wrong + " rules broken");
-        if (wrong != 0) {
-            System.exit(1);
-        }
+        CHECK.due("rules are broken by an empty class", new Rules(FACE + "}", Set.of()).broken().size(), 0);
+        looksAtRulesOfClasses();
+        looksAtRulesOfStatements();
+        looksAtRulesOfLibrary();
+        looksAtRulesOfSize();
+        looksAtSource();
+        CHECK.end();
     }
 
-    private static void looksAtText(String source) {
-        String code = source.replaceAll("(?s)/\\*.*?\\*/", "").replaceAll("//[^\n]*", "");
-        for (String word : RULED_OUT) {
-            boolean isWord = Character.isLetter(word.charAt(0));
-            String pattern = isWord ? "\\b" + Pattern.quote(word) : Pattern.quote(word);
-            must(!Pattern.compile(pattern + (isWord && !word.contains(" ") && !word.contains(".") ? "\\b" : ""))
-                    .matcher(code).find(), "no " + word);
-        }
-        Matcher imports = Pattern.compile("import ([^;]+);").matcher(code);
-        while (imports.find()) {
-            must(Set.of("java.util.Arrays", "java.util.ArrayList", "java.util.List").contains(imports.group(1)),
-                    "import of " + imports.group(1));
-        }
-        must(!code.contains("package "), "no package");
-        must(!Pattern.compile("\"\\s*\\+|\\+\\s*\"").matcher(code).find(), "texts joined by +");
-        must(source.chars().allMatch(c -> c < 128), "signs below 128");
-    }
-
-    private static void looksAtMethodLengths(String source) {
-        String[] lines = source.split("\n");
-        int start = -1;
-        String indent = "";
-        for (int i = 0; i < lines.length; i++) {
-            String line = lines[i];
-            Matcher head = Pattern.compile("^( {4}| {8})[a-zA-Z].*\\) \\{$").matcher(line);
-            if (start < 0 && head.matches()) {
-                start = i;
-                indent = head.group(1);
-            } else if (start >= 0 && line.equals(indent + "}")) {
-                must(i - start < 60, "a short method at line " + (start + 1));
-                start = -1;
-            }
-        }
-    }
-
-    private static void looksAtFace() throws IOException {
-        String document = Files.readString(DOCUMENT);
-        Set<String> due = new TreeSet<>();
-        Matcher method = Pattern.compile("    public (int|long) (\\w+)\\(([^)]*)\\);").matcher(document);
-        while (method.find()) {
-            due.add(method.group(1) + " " + method.group(2) + " " + method.group(3).replaceAll(" \\w+(,|$)", "$1"));
-        }
-        must(due.size() == 67, "67 methods in the document");
-        Set<String> found = new TreeSet<>();
-        Set<String> names = new HashSet<>();
+    private static void looksAtSource() throws IOException {
+        Set<String> face = new TreeSet<>();
         for (Method m : PassedPenance.class.getDeclaredMethods()) {
             if (Modifier.isPublic(m.getModifiers())) {
-                StringBuilder kinds = new StringBuilder();
-                for (Class<?> kind : m.getParameterTypes()) {
-                    kinds.append(kinds.length() == 0 ? "" : ", ").append(kind.getName());
-                }
-                found.add(m.getReturnType().getName() + " " + m.getName() + " " + kinds);
-                names.add(m.getName());
-                must(!Modifier.isStatic(m.getModifiers()), m.getName() + " is of the object");
-            } else {
-                must(Modifier.isPrivate(m.getModifiers()), m.getName() + " is private");
+                face.add(m.getName());
             }
         }
-        must(found.equals(due), "the face is the document's: " + found + " for " + due);
-        for (Class<?> c : withInner()) {
-            for (Method m : c.getDeclaredMethods()) {
-                must(Modifier.isPublic(m.getModifiers()) || !names.contains(m.getName()),
-                        c.getName() + "." + m.getName() + " bears a name of its own");
-            }
+        for (String what : new Rules(Files.readString(SOURCE), face).broken()) {
+            CHECK.due("rule " + what, 1, 0);
         }
-        must(Modifier.isFinal(PassedPenance.class.getModifiers()), "the class is final");
-        must(PassedPenance.class.getConstructors().length == 1, "one constructor");
-        must(PassedPenance.class.getFields().length == 1, "one constant");
     }
 
-    private static List<Class<?>> withInner() {
-        List<Class<?>> all = new java.util.ArrayList<>(List.of(PassedPenance.class.getDeclaredClasses()));
-        all.add(PassedPenance.class);
-        return all;
+    /** A class with such members breaks this rule, and none else. */
+    private static void breaks(int rule, String members) {
+        Set<String> broken = new Rules(FACE + members + "}", Set.of("ask")).broken();
+        Set<String> numbers = new TreeSet<>();
+        for (String what : broken) {
+            numbers.add(what.replaceAll(":.*", ""));
+        }
+        CHECK.due(members + " breaks rule " + rule + " alone, not " + broken,
+                numbers.equals(Set.of(Integer.toString(rule))) ? 1 : 0, 1);
     }
 
-    private static void looksAtClasses() {
-        List<Class<?>> all = withInner();
-        must(all.size() <= 12, "at most twelve classes");
-        for (Class<?> c : all) {
-            int fields = 0;
-            for (Field f : c.getDeclaredFields()) {
-                boolean isStatic = Modifier.isStatic(f.getModifiers());
-                must(!isStatic || Modifier.isFinal(f.getModifiers()), f + " is final");
-                fields += isStatic ? 0 : 1;
-            }
-            must(fields <= 20, c.getName() + " has at most twenty fields");
-            for (Method m : c.getDeclaredMethods()) {
-                must(m.getParameterCount() <= 7, m + " has at most seven parameters");
-            }
-            for (Constructor<?> k : c.getDeclaredConstructors()) {
-                must(k.getParameterCount() <= 7, k + " has at most seven parameters");
-            }
-            if (c != PassedPenance.class) {
-                must(Modifier.isStatic(c.getModifiers()) && Modifier.isPrivate(c.getModifiers()),
-                        c.getName() + " is private and static");
-            }
+    private static void keeps(String members) {
+        Set<String> broken = new Rules(FACE + members + "}", Set.of("ask")).broken();
+        CHECK.due(members + " breaks " + broken, broken.size(), 0);
+    }
+
+    private static void looksAtRulesOfClasses() {
+        keeps("public int ask() { return 1; }");
+        breaks(1, "public int other() { return 1; }");
+        breaks(1, "int other() { return 1; }");
+        breaks(1, "protected int other;");
+        breaks(1, "private int ask() { return 1; }");
+        breaks(1, "private static final class A { int ask() { return 1; } }");
+        keeps("private static final class A { int other() { return 1; } }");
+        breaks(2, "private final class A { }");
+        breaks(2, "private void a() { class A { } }");
+        breaks(2, "private interface A { int of(int i); } private void a() { A f = i -> i; }");
+        breaks(2, "private interface A { int of(int i); } private void a() { A f = Math::abs; }");
+        breaks(3, "private int[][][] a;");
+        breaks(3, "private Object a;");
+        breaks(3, "private Long a;");
+        keeps("private long[][] a; private String b; private static final class A { } private A[] c;");
+        breaks(3, "private static final class A { } private A[][] c;");
+        breaks(5, "private static int a;");
+        breaks(5, "private static final int[] A = new int[3];");
+        breaks(5, "static { }");
+        keeps("private static final int[] A = {1, 2}; private static final int B = 1 << 3; private static final long C = 5L * B;");
+    }
+
+    private static void looksAtRulesOfStatements() {
+        breaks(6, "private void a() { throw null; }");
+        breaks(6, "private void a() { try { return; } finally { } }");
+        breaks(6, "private void a() { synchronized (this) { } }");
+        breaks(6, "private void a() { assert true; }");
+        breaks(6, "private boolean a(String b, String c) { return b == c; }");
+        keeps("private boolean a(String b) { return b == null; }");
+        breaks(6, "private static class A { } private static class B extends A { } private B a(A b) { return (B) b; }");
+        breaks(7, "private int a(int b) { return 5 / b; }");
+        breaks(7, "private int a(int b) { b %= b; return b; }");
+        keeps("private int a(int b) { return b == 0 ? 0 : 5 / b; }");
+        keeps("private int a(int b) { if (b > 0) { return 5 % b; } return 5 / 3; }");
+        breaks(8, "private int a(int b) { return a(b); }");
+        breaks(8, "private int a(int b) { return c(b); } private int c(int b) { return a(b); }");
+        breaks(9, "private void a() { while (true) { } }");
+        breaks(9, "private void a() { for (;;) { } }");
+        breaks(9, "private void a(boolean b) { do { } while (b); }");
+        keeps("private void a(int b) { for (int i = 0; i < b; i++) { } }");
+        breaks(10, "private String a(String b) { return b + 1; }");
+    }
+
+    private static void looksAtRulesOfLibrary() {
+        breaks(4, "private int a(String b) { return b.hashCode(); }");
+        breaks(4, "private int a(int b) { return Math.addExact(b, b); }");
+        breaks(4, "private void a() { System.out.println(); }");
+        breaks(4, "private long a() { return System.nanoTime(); }");
+        breaks(4, "private int a(int[] b) { return java.util.Arrays.hashCode(b); }");
+        keeps("private int a(String b) { return b.length() + Math.max(1, b.charAt(0)) + Integer.bitCount(3); }");
+        keeps("private void a(int[] b) { java.util.Arrays.fill(b, 0); System.arraycopy(b, 0, b.clone(), 0, b.length); }");
+        breaks(4, "private int a() { return new java.util.Random(3).nextInt(); }");
+    }
+
+    private static void looksAtRulesOfSize() {
+        keeps("private int a(int b, int c, int d, int e, int f, int g, int h) { return 1; }");
+        breaks(11, "private int a(int b, int c, int d, int e, int f, int g, int h, int i) { return 1; }");
+        keeps("private void a() {" + "\n".repeat(59) + "}");
+        breaks(11, "private void a() {" + "\n".repeat(60) + "}");
+        keeps(chain(8));
+        breaks(11, chain(9));
+        keeps(fields(20));
+        breaks(11, fields(21));
+        keeps(classes(11));
+        breaks(11, classes(12));
+        breaks(12, "private void a() { int[] b = {}; for (int i = 0; i < 3; i++) { b = new int[i]; } }");
+        keeps("private void a() { int[] b = new int[3]; for (int i = 0; i < 3; i++) { b[i] = 1; } }");
+        breaks(12, "private static final class A { A(PassedPenance p) { } } private static final class B { final C c; B() { "
+                + "c = new C(this); } } private static final class C { C(B b) { } }");
+    }
+
+    /** Public ask() and below it so many that call one another. */
+    private static String chain(int calls) {
+        StringBuilder text = new StringBuilder("public int ask() { return a1(); }");
+        for (int i = 1; i <= calls; i++) {
+            text.append("private int a").append(i).append("() { return ");
+            text.append(i == calls ? "1" : "a" + (i + 1) + "()").append("; }");
         }
+        return text.toString();
+    }
+
+    private static String fields(int many) {
+        StringBuilder text = new StringBuilder("private static final int A = 1;");
+        for (int i = 0; i < many; i++) {
+            text.append("private int b").append(i).append(';');
+        }
+        return text.toString();
+    }
+
+    private static String classes(int many) {
+        StringBuilder text = new StringBuilder();
+        for (int i = 0; i < many; i++) {
+            text.append("private static final class C").append(i).append(" { }");
+        }
+        return text.toString();
     }
 }

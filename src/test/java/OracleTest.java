@@ -110,7 +110,7 @@ public final class OracleTest {
             case "image": return around(3);
             case "width": return around(4);
             case "length": return around(random.nextBoolean() ? 8 : 61);
-            default: return (long) (random.nextInt(4) == 0 ? random.nextLong() : random.nextInt(12) - 2);
+            default: return random.nextInt(4) == 0 ? random.nextLong() : random.nextInt(12) - 2;
         }
     }
 

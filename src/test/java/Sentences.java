@@ -10,7 +10,7 @@ import java.util.regex.Pattern;
 
 /**
  * The sentences of the document, each with the answers that would show it broken. A test quotes its sentence; at the
- * end no words of the terms and promises may be left that were not quoted.
+ * end no words of the document, from its first line to its last, may be left that were not quoted.
  */
 final class Sentences {
     /** What a call answers. */
@@ -23,6 +23,11 @@ final class Sentences {
     private static final Pattern WORDS = Pattern.compile("[A-Za-z0-9]");
     private static final Pattern TERM = Pattern.compile("(?m)^(I|II|III|IV|V|VI|  TOKENS|  FAULTS|  SLOTS)[., ](.*)$");
     private static final Pattern PROMISE = Pattern.compile("(?m)^## Promise ([0-9]+): .*\\n\\n`[^`]*`: (.*)$");
+    private static final Pattern AROUND = Pattern.compile(
+            "(?ms)^## (What it is|The public face|Not promised)\\n\\n(?:```java\\n)?(.*?)\\n(?:```\\n)?(?=\\n## |\\z)");
+    /** What stands around the sentences: headings, fences, the heads of terms and promises. */
+    private static final Pattern HEADS = Pattern.compile("# PassedPenance|## (What it is|The public face|Terms|Not promised)"
+            + "|## Promise [0-9]+: [A-Za-z ]+|`[^`]*`: |```(java|text)?|(I|II|III|IV|V|VI)\\.|  (TOKENS|FAULTS|SLOTS)[, ]|");
 
     private final Check check = new Check();
     private final Map<String, String> texts = new TreeMap<>();
@@ -33,15 +38,25 @@ final class Sentences {
 
     Sentences() throws IOException {
         String document = Files.readString(DOCUMENT);
-        for (Pattern pattern : new Pattern[] {TERM, PROMISE}) {
+        StringBuilder rest = new StringBuilder(document);
+        for (Pattern pattern : new Pattern[] {TERM, PROMISE, AROUND}) {
             Matcher sections = pattern.matcher(document);
             while (sections.find()) {
                 String text = sections.group(2);
                 texts.put(sections.group(1).trim(), text);
                 quoted.put(sections.group(1).trim(), new boolean[text.length()]);
+                rest.replace(sections.start(2), sections.end(2), "\n".repeat(text.length()));
             }
         }
-        check.due("sections of the document", texts.size(), 9 + 68);
+        check.due("sections of the document", texts.size(), 9 + 68 + 3);
+        for (String line : rest.toString().split("\n")) {
+            check.due("of a section: " + line, HEADS.matcher(line).matches() ? 1 : 0, 1);
+        }
+    }
+
+    /** The lines of a section. */
+    String[] linesOf(String section) {
+        return texts.getOrDefault(section, "").split("\n");
     }
 
     /** The answers from here on are due by a sentence of a section: a term's number, or a promise's. */
