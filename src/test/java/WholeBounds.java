@@ -156,7 +156,7 @@ final class WholeBounds {
 
     // ---- the public face ----
 
-    private void faceOfClass() throws IOException {
+    private void faceOfClass() {
         Class<PassedPenance> face = PassedPenance.class;
         s.of(FACE, "public final class PassedPenance {");
         s.due("public and final", face.getModifiers() & (Modifier.PUBLIC | Modifier.FINAL | Modifier.ABSTRACT),
